@@ -26,6 +26,10 @@ public final class BestTest {
         String before = Check.seen(x);
         x.worst(0);
         CHECK.holds("18: nothing changes", before.equals(Check.seen(x)));
+        x.kettle(0, 19);
+        x.kettle(1, 40);
+        x.set(0, 1, 255);
+        CHECK.due("18: if it boils at all, most behind it", 0, x.worst(0));
         x.turn(0, 3);
         CHECK.due("18: a child: all alike", 0, x.worst(0));
         CHECK.due("18: no such one", Check.BEYOND, x.worst(1));
@@ -40,6 +44,9 @@ public final class BestTest {
         Check.call(x, 0, 255, 255, 3);
         CHECK.due("19: a fifth lie in 9 minutes", 1, x.turns(9));
         CHECK.due("19: four, either way", Check.NONE, x.turns(8));
+        x.kettle(2, 4);
+        CHECK.due("19: one minute", 1, x.turns(1));
+        x.kettle(2, 20);
         CHECK.due("19: five, either way", Check.NONE, x.turns(10));
 
         KettleInquest three = new KettleInquest();
@@ -148,6 +155,8 @@ public final class BestTest {
         CHECK.due("23: of eight four may not", 15, x.says(0, 8));
         CHECK.due("23: in 20 minutes 6 and 7 may, twice", 63, x.says(0, 20));
         CHECK.holds("23: nothing changes", before.equals(Check.seen(x)));
+        x.kettle(0, 16);
+        CHECK.due("23: none may go unheard", 255, x.says(0, 8));
         x.kettle(0, 20);
         CHECK.due("23: the least, if it boils anyhow", 0, x.says(0, 1));
         int[][] beyond = {{-1, 1}, {1, 1}, {0, 0}, {0, 21}};
@@ -172,6 +181,13 @@ public final class BestTest {
         KettleInquest liar = Check.liarAlone();
         liar.truth(0b100);
         CHECK.due("24: a fact that is true may be otherwise", 2, liar.fact(5));
+        liar.truth(0);
+        liar.kettle(2, 32);
+        CHECK.due("24: each makes less than as it is", 0, liar.fact(8));
+        liar.minutes(2);
+        liar.truth(0b100);
+        liar.kettle(2, 12);
+        CHECK.due("24: one minute", 2, liar.fact(1));
         int[] beyond = {0, -1, 61};
         for (int n : beyond) {
             CHECK.due("24: fact(" + n + ")", Check.BEYOND, x.fact(n));

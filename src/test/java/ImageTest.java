@@ -52,10 +52,14 @@ public final class ImageTest {
         CHECK.due("35: not the one before", 3, x.undo());
         KettleInquest empty = new KettleInquest();
         empty.image();
-        empty.witness(1);
+        Check.call(empty, 1, 2, 3, 4);
         CHECK.due("35: nobody was there", 0, empty.undo());
         CHECK.due("35: nobody is there", 0, empty.count(0));
-        CHECK.due("35: a new one is new", 0, empty.witness(1));
+        CHECK.due("35: a new one", 0, empty.witness(5));
+        int[] anew = {5, 0, 0, 3};
+        for (int what = 0; what < 4; what++) {
+            CHECK.due("35: a new one is new, of(0, " + what + ")", anew[what], empty.of(0, what));
+        }
     }
 
     private static void imageLeavesOut() {

@@ -90,9 +90,11 @@ public final class MinuteTest {
         x.minutes(13);
         CHECK.due("13: nobody's turn", -1, x.now(5));
         CHECK.due("13: no fact", 0, x.now(6));
-        for (int w = 0; w < 3; w++) {
-            x.witness(3);
-        }
+        x.witness(3);
+        CHECK.due("13: one alone", 0, x.now(5));
+        CHECK.due("13: 13, the rest by 8", 5, x.now(6));
+        x.witness(3);
+        x.witness(3);
         CHECK.due("13: 13 by 3: the rest", 1, x.now(5));
         CHECK.due("13: 13 by 3: cut", 4, x.now(6));
         x.minutes(15);
@@ -196,5 +198,10 @@ public final class MinuteTest {
         last.kettle(2, 51);
         CHECK.due("17: 26 rounds are too far", Check.NONE, last.doubts(0));
         CHECK.due("17: nothing changes", 1, last.of(0, 3));
+        last.minutes(1);
+        last.kettle(2, 52);
+        CHECK.due("17: just 200", 200, last.doubts(0));
+        last.kettle(2, 53);
+        CHECK.due("17: 208 are too far", Check.NONE, last.doubts(0));
     }
 }

@@ -96,6 +96,10 @@ public final class SheetTest {
         numbers("30: down", x, 0, 11, 12, 13, 14, 14);
         x = counted();
         CHECK.due("30: none", 0, x.copy(0, 5, 1, 3, 0));
+        x.sheet(3, 16, 5);
+        CHECK.due("30: all", 5, x.copy(0, 0, 3, 0, 5));
+        numbers("30: all", x, 3, 10, 11, 12, 13, 14);
+        x.sheet(3, 0, 0);
         int top = Integer.MAX_VALUE;
         int[][] beyond = {{-1, 0, 0, 0, 1}, {0, 0, 4, 0, 1}, {4, 0, 3, 0, 1}, {0, 4, 1, 0, 2}, {0, 0, 1, 2, 2}, {0, 0, 1, 0, 4},
             {0, -1, 1, 0, 1}, {0, 0, 1, -1, 1}, {0, 0, 1, 0, -1}, {0, 6, 1, 0, 0}, {0, 0, 1, 4, 0}, {0, top, 1, 0, 1},

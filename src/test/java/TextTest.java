@@ -107,7 +107,7 @@ public final class TextTest {
             {"wife says 1 knows 1", 12}, {"wife knows 1 sure 1", 13}, {"wife says 1 sure 1", 12}, {"wife sure 1 sure 1", 12},
             {"wife knows 1 knows 1", 13}, {"wife says 1 says 1", 12}, {"wife sure 1 2", 12}, {"wife 3", 5}, {"wife wife", 5},
             {"true 1 2", 7}, {"true 1 true 2", 7}, {"water 1 2", 8}, {"true 1 water 2", 7},
-            {"kettle 5", 0}, {"wive", 0}, {"wifes", 0}, {"wif", 0}, {"truefalse 1", 0}, {"True 1", 0}, {"tRue 1", 0},
+            {"kettle 5", 0}, {"wive", 0}, {"wifes", 0}, {"wif", 0}, {"life", 0}, {"rater 5", 0}, {"truefalse 1", 0}, {"True 1", 0}, {"tRue 1", 0},
             {"5", 0}, {";", 0}, {"; true 1", 0}, {"true 1;;true 2", 7}, {"true 1; 5", 8}, {"sure 5", 0}, {"knows 1", 0},
             {"true\t1", 4}, {"true 1\n", 6}, {"\ttrue 1", 0}, {"true 1,true 2", 6}, {"true -1", 5}, {"true 1;?", 7},
             {"wife sure 5 knows 1 2 says 3 4;child?", 36}, {"true 1\u00ff", 6}, {"\u0000", 0}, {"true 1;wife{", 11},
