@@ -39,7 +39,8 @@ final class BestEdges {
             .answers("worst 0 = 6; set 0 2 255; worst 0 = 0; set 0 2 0; worst 0 = 0")
             .answers("kettle 0 99; kettle 1 0; worst 0 = 0").answers("turn 0 3; worst 0 = 0").answers("turn 0 3; kettle 0 99; worst 0 = 0");
         edges.at(18, "of several the least. BEYOND.").given(Edges.one(0, 255, 255, 3) + "kettle 0 16").answers("worst 0 = 0; now 1 = 16")
-            .answers("kettle 0 19; worst 0 = 0; set 0 2 127; worst 0 = 7");
+            .answers("kettle 0 19; worst 0 = 0; set 0 2 127; worst 0 = 7")
+            .given(Edges.one(0, 255, 32, 0)).answers("worst 0 = 5; heats 0 5 = 101");
         edges.at(18, "BEYOND.").given(COURT).refusesOutside("BEYOND", 0, 2, "worst #").given("")
             .refuses("BEYOND", "worst 0", "worst -1", "worst min")
             .given(Edges.EIGHT).refuses("BEYOND", "worst 8");
