@@ -10,6 +10,8 @@ import java.util.Collections;
 import java.util.List;
 import java.util.Set;
 import java.util.TreeSet;
+import java.util.regex.Matcher;
+import java.util.regex.Pattern;
 
 /** The document's face and those rules of LANGUAGE.md that can be seen in the class or its text. */
 public final class FaceTest {
@@ -28,11 +30,50 @@ public final class FaceTest {
         "native", "goto", "Object", "System.out", "Random", "Thread", "hashCode", "toString", "Exact",
     };
 
+    private static final Pattern HEADING = Pattern.compile("Ahead of the calls (.*?) the interface says: (---- .*?)\\.\n");
+
     public static void main(String[] args) throws IOException {
+        String source = Files.readString(Path.of("src/main/java/KettleInquest.java"));
+        String document = Files.readString(Path.of("../shared/DOC.md"));
         face();
+        signatures(document, source);
+        headings(document, source);
         membersInside();
-        text();
+        text(source);
         CHECK.finish("FaceTest");
+    }
+
+    /** With the names of their parameters and in their order, as the document writes them. */
+    private static void signatures(String document, String source) {
+        int from = document.indexOf("```java", document.indexOf("## The public face"));
+        String block = document.substring(document.indexOf('\n', from), document.indexOf("```", from + 3));
+        int last = -1;
+        int seen = 0;
+        for (String line : block.split("\n")) {
+            if (!line.isBlank() && !line.equals("}")) {
+                String due = "\n" + line.replace(";", " {") + "\n";
+                int at = source.indexOf(due);
+                CHECK.holds("face: it stands in the class, in its order: " + line.trim(), at > last);
+                last = at;
+                seen++;
+            }
+        }
+        CHECK.due("face: lines seen in the document", FACE.length + 2, seen);
+    }
+
+    private static void headings(String document, String source) {
+        Matcher m = HEADING.matcher(document);
+        int seen = 0;
+        while (m.find()) {
+            for (String name : m.group(1).replace("`", "").split(", ")) {
+                int call = Math.max(source.indexOf("public int " + name + "("), source.indexOf("public long " + name + "("));
+                int ahead = source.lastIndexOf("// ---- ", Math.max(call, 0));
+                String due = "// " + m.group(2) + "\n";
+                CHECK.holds("face: ahead of " + name + " stands " + m.group(2), ahead >= 0 && source.startsWith(due, ahead));
+                seen++;
+            }
+        }
+        CHECK.due("face: calls seen under headings", FACE.length, seen);
     }
 
     private static String signature(Method m) {
@@ -82,8 +123,7 @@ public final class FaceTest {
         }
     }
 
-    private static void text() throws IOException {
-        String text = Files.readString(Path.of("src/main/java/KettleInquest.java"));
+    private static void text(String text) {
         for (int i = 0; i < text.length(); i++) {
             if (text.charAt(i) > 126) {
                 CHECK.holds("rule 4: signs 1 to 127, not at " + i, false);
