@@ -125,6 +125,9 @@ final class BestEdges {
             .answers("kind 0 59 = 0; kind 0 60 = 3")
             .given(Edges.one(0, 255, 255, 9) + "kettle 2 1").answers("kind 0 1 = 3; kind 0 60 = 3")
             .given("truth 1;" + Edges.one(4, 0, 0, 9) + "kettle 2 1").answers("kind 0 1 = 0");
+        // One that heats as a witness and never doubts would make 4 cups here, but there is no such KIND: as each of the six it makes 6.
+        edges.at(22, "The KIND").given("truth 190; kettle 2 18; kettle 0 62;" + Edges.one(2, 88, 194, 2))
+            .answers("witness 5; set 1 1 246; set 1 2 121; set 1 3 8; kind 0 4 = 0; on 4 2 = 6; turn 0 3; on 4 2 = 6; turn 0 4; on 4 2 = 6");
         edges.at(22, "of several the least.").given(Edges.one(5, 255, 255, 9) + "kettle 1 3").answers("kind 0 1 = 0; kind 0 60 = 0")
             .given(Edges.one(1, 255, 255, 0) + "kettle 0 19").answers("kind 0 1 = 3; kettle 0 18; kind 0 1 = 0")
             .given(Edges.one(1, 255, 255, 0) + "kettle 0 99").answers("kind 0 1 = 0")

@@ -19,6 +19,15 @@ final class SheetEdges {
         readBeyond(edges);
     }
 
+    /** A step for each number of the longest sheet. */
+    private static String forty(String step) {
+        StringBuilder all = new StringBuilder();
+        for (int i = 0; i < 40; i++) {
+            all.append(step.replace("#", Integer.toString(i))).append(';');
+        }
+        return all.toString();
+    }
+
     private static void sheet(Edges edges) {
         edges.at(28, "A sheet has n numbers, all 0, of 8, 16 or 64 bits")
             .answers("sheet 0 8 40 = 40; write 0 39 1 = 0; write 0 40 1 = BEYOND")
@@ -29,6 +38,10 @@ final class SheetEdges {
             .given("sheet 0 64 3; write 0 0 7; write 0 2 -1").answers("sheet 0 64 3 = 3; write 0 0 0 = 0; write 0 1 0 = 0; write 0 2 0 = 0")
             .answers("sheet 0 64 1 = 1; sheet 0 64 3 = 3; write 0 0 0 = 0; write 0 2 0 = 0")
             .answers("sheet 0 8 3 = 3; write 0 0 300 = 0; write 0 0 0 = 44; write 0 2 0 = 0");
+        edges.at(28, "all 0").given("sheet 0 64 40;" + forty("write 0 # -1")).answers("sheet 0 64 40 = 40;" + forty("write 0 # 0 = 0"))
+            .answers("sheet 0 16 40 = 40;" + forty("write 0 # 0 = 0")).answers("sheet 0 8 40 = 40;" + forty("write 0 # 0 = 0"))
+            .answers("sheet 0 64 1 = 1; sheet 0 64 40 = 40;" + forty("write 0 # 0 = 0"))
+            .answers("sheet 0 0 40 = 0; sheet 0 64 40 = 40;" + forty("write 0 # 0 = 0"));
         edges.at(28, "bits 0: it is MISSING: n (0 if it is MISSING).").given("sheet 0 8 3; write 0 0 7")
             .answers("sheet 0 0 0 = 0; write 0 0 0 = MISSING; book 0 = MISSING")
             .answers("sheet 0 0 40 = 0; lays 0 = MISSING; read 0 0 = MISSING").answers("sheet 0 0 1 = 0; sheet 0 8 3 = 3; write 0 0 0 = 0")
