@@ -109,6 +109,12 @@ final class TermsEdges {
             .given(wife + "witness 1;" + other + "witness 4; set 2 1 102; set 2 2 85").answers("heats 0 1 = 111; heats 0 5 = 101")
             .given(wife + "witness 1;" + other + "swap 0 1").answers("heats 1 1 = 111; heats 1 5 = 101")
             .given(wife + "witness 1;" + other + "kettle 0 16").answers("heats 0 1 = 111");
+        // Beside one that lies in all, those of the other kinds heat as they would alone.
+        String beside = Edges.one(1, 255, 255, 3) + "witness 0; witness 1; witness 2; witness 3; witness 4; witness 5;";
+        edges.at(9, "WIFE: as WITNESS, and 1").given(beside)
+            .answers("heats 1 0 = 101; heats 2 0 = 101; heats 3 0 = 102; heats 4 0 = 97; heats 5 0 = 100; heats 6 0 = 102")
+            .answers("set 1 1 1; heats 1 0 = 100; set 1 2 1; heats 1 0 = 104; set 2 1 1; heats 2 0 = 100; set 2 2 1; heats 2 0 = 109")
+            .answers("set 1 2 1; heats 1 0 = 100; set 2 2 1; heats 2 0 = 100; set 5 2 1; heats 5 0 = 101");
     }
 
     private static void heatsOfChild(Edges edges) {

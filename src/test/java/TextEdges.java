@@ -12,6 +12,7 @@ final class TextEdges {
         numbers(edges);
         blanks(edges);
         anyByte(edges);
+        anyLetter(edges);
         items(edges);
         sure(edges);
         knows(edges);
@@ -111,6 +112,29 @@ final class TextEdges {
                 first.faultAt(c == ';' ? 7 : 6, "true 1" + c);
             }
         }
+    }
+
+    /** Each letter of each word that may stand there, by its neighbours in the alphabet. */
+    private static void anyLetter(Edges edges) {
+        Edge other = edges.at(27, "another WORD");
+        for (String word : "witness plumber wife child expert nurse true false water".split(" ")) {
+            other.faultAt(0, changed(word, " 1")).faultAt(0, changed(word, ""));
+        }
+        for (String word : "sure knows says".split(" ")) {
+            for (String text : changed(word, " 1")) {
+                other.faultAt(5, "wife " + text);
+            }
+        }
+    }
+
+    private static String[] changed(String word, String behind) {
+        String[] all = new String[2 * word.length()];
+        for (int i = 0; i < word.length(); i++) {
+            int letter = word.charAt(i) - 'a';
+            all[2 * i] = word.substring(0, i) + (char) ('a' + (letter + 1) % 26) + word.substring(i + 1) + behind;
+            all[2 * i + 1] = word.substring(0, i) + (char) ('a' + (letter + 25) % 26) + word.substring(i + 1) + behind;
+        }
+        return all;
     }
 
     private static void items(Edges edges) {
