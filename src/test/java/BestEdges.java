@@ -125,6 +125,14 @@ final class BestEdges {
             .answers("kind 0 59 = 0; kind 0 60 = 3")
             .given(Edges.one(0, 255, 255, 9) + "kettle 2 1").answers("kind 0 1 = 3; kind 0 60 = 3")
             .given("truth 1;" + Edges.one(4, 0, 0, 9) + "kettle 2 1").answers("kind 0 1 = 0");
+        // Each KIND may be it: a plumber for what it doubts, a wife for what she learns, an expert and a nurse for what a nurse hears then.
+        edges.at(22, "The KIND as one of which one makes TEA least")
+            .given("truth 130; kettle 2 24; kettle 0 44;" + Edges.one(5, 228, 47, 5)).answers("kind 0 2 = 1")
+            .given("truth 72; kettle 2 23; kettle 0 30;" + Edges.one(3, 20, 6, 4)).answers("kind 0 9 = 2")
+            .given("truth 221; kettle 2 17; kettle 0 31;" + Edges.one(0, 38, 244, 6))
+            .answers("witness 5; set 1 1 13; set 1 2 246; set 1 3 6; kind 0 2 = 4")
+            .given("truth 243; kettle 2 20; kettle 0 17;" + Edges.one(1, 135, 122, 4))
+            .answers("witness 5; set 1 1 137; set 1 2 210; set 1 3 7; kind 0 2 = 5; turn 0 5; on 2 2 = 0");
         // One that heats as a witness and never doubts would make 4 cups here, but there is no such KIND: as each of the six it makes 6.
         edges.at(22, "The KIND").given("truth 190; kettle 2 18; kettle 0 62;" + Edges.one(2, 88, 194, 2))
             .answers("witness 5; set 1 1 246; set 1 2 121; set 1 3 8; kind 0 4 = 0; on 4 2 = 6; turn 0 3; on 4 2 = 6; turn 0 4; on 4 2 = 6");
